@@ -298,23 +298,15 @@ public final class MatchLattice {
             return BAD;
         }
         settle();
-        int partners = 0;
-        for (int m = 0; m < matches.total(); m++) {
-            int partner = matches.load(m, turns).partner(side, one);
-            if (partner != NOBODY) {
-                partners |= 1 << partner;
-            }
-        }
-        return partners;
+        // Who is had in any match is left by a turn, or still there behind all turns.
+        int last = matches.load(matches.total() - 1, turns).partner(side, one);
+        return turns.partnersLeft(side, one) | 1 << last;
     }
 
     public int fixed() {
         settle();
-        int lefts = (1 << told.each()) - 1;
-        for (int m = 1; m < matches.total(); m++) {
-            lefts &= ~matches.load(m, turns).leftsUnlike(matches.first());
-        }
-        return lefts;
+        // A left never comes back to whom it had ahead of a turn.
+        return ((1 << told.each()) - 1) & ~turns.movers();
     }
 
     public int lie(int right, int what) {
@@ -327,7 +319,8 @@ public final class MatchLattice {
         draft.copyFrom(told);
         int best = told.each();
         int ways = 0;
-        for (int order = 0; order < draft.orders(); order++) {
+        int orders = told.orders();
+        for (int order = 0; order < orders; order++) {
             draft.arrange(RIGHT, right, order);
             asked.run(draft, LEFT);
             int place = told.place(RIGHT, right, asked.outcome().partner(RIGHT, right));
@@ -396,13 +389,12 @@ public final class MatchLattice {
     }
 
     public int known() {
-        settle();
-        for (int m = 0; m < matches.total(); m++) {
-            if (matches.load(m, turns).leftsUnlike(byHand) == 0) {
-                return m;
-            }
+        // Somebody alone would block: of each side there are as many, so that one of the other is alone, too.
+        if (told.firstBlock(byHand) != NOBODY) {
+            return NOT;
         }
-        return NOT;
+        settle();
+        return matches.numberOf(turns.behind(byHand, told));
     }
 
     // ---- the image
@@ -902,19 +894,13 @@ public final class MatchLattice {
         void join(int side, int one, int other) {
             part(side, one);
             part(1 - side, other);
-            partners.set(cell(side, one), other);
-            partners.set(cell(1 - side, other), one);
+            tie(side, one, other);
         }
 
-        /** The lefts, in bits, that have not the same right here and there. */
-        int leftsUnlike(Pairing other) {
-            int lefts = 0;
-            for (int left = 0; left < MOST_EACH; left++) {
-                if (partner(LEFT, left) != other.partner(LEFT, left)) {
-                    lefts |= 1 << left;
-                }
-            }
-            return lefts;
+        /** Whom they had must be tied to others next, as those of a turn are. */
+        void tie(int side, int one, int other) {
+            partners.set(cell(side, one), other);
+            partners.set(cell(1 - side, other), one);
         }
 
         private static int cell(int side, int one) {
@@ -1076,9 +1062,45 @@ public final class MatchLattice {
             return sum;
         }
 
+        /** Of one the partners in the pairs of all turns, in bits. */
+        int partnersLeft(int side, int one) {
+            int partners = 0;
+            for (int t = 0; t < total; t++) {
+                for (int k = 0; k < length(t); k++) {
+                    if ((side == LEFT ? left(t, k) : right(t, k)) == one) {
+                        partners |= 1 << (side == LEFT ? right(t, k) : left(t, k));
+                    }
+                }
+            }
+            return partners;
+        }
+
+        /** The lefts in the pairs of all turns, in bits. */
+        int movers() {
+            int lefts = 0;
+            for (int t = 0; t < total; t++) {
+                for (int k = 0; k < length(t); k++) {
+                    lefts |= 1 << left(t, k);
+                }
+            }
+            return lefts;
+        }
+
+        /** The turns, in bits, behind which a stable match comes: each left went down its list by them. */
+        int behind(Pairing stable, Lists lists) {
+            int bits = 0;
+            for (int t = 0; t < total; t++) {
+                int left = left(t, 0);
+                if (lists.place(LEFT, left, stable.partner(LEFT, left)) > lists.place(LEFT, left, right(t, 0))) {
+                    bits |= 1 << t;
+                }
+            }
+            return bits;
+        }
+
         void perform(int t, Pairing pairing) {
             for (int k = 0; k < length(t); k++) {
-                pairing.join(LEFT, left(t, k), right(t, following(t, k)));
+                pairing.tie(LEFT, left(t, k), right(t, following(t, k)));
             }
         }
 
@@ -1231,11 +1253,6 @@ public final class MatchLattice {
 
         int total() {
             return total;
-        }
-
-        /** The lefts' best. */
-        Pairing first() {
-            return first;
         }
 
         boolean isMatch(int m) {
