@@ -982,9 +982,9 @@ public final class MatchLattice {
         private final Row needs;
         private final Row depths;
         private int total;
-        /** The match that the turns found so far lead to, and whom each left has next in it. */
+        /** The match that the turns found so far lead to, and the follower of each left in it. */
         private final Pairing now;
-        private final Row nexts;
+        private final Row followers;
         /** By which turn a left came to the right that it has; none: it had her at first. */
         private final Row broughtBy;
         /** By which turn a right came past a left on her list, so that she says no to it since. */
@@ -999,7 +999,7 @@ public final class MatchLattice {
             depths = new Row(MOST_TURNS);
             total = 0;
             now = new Pairing();
-            nexts = new Row(MOST_EACH);
+            followers = new Row(MOST_EACH);
             broughtBy = new Row(MOST_EACH);
             passedBy = new Row(MOST_EACH * MOST_EACH);
         }
@@ -1111,7 +1111,7 @@ public final class MatchLattice {
             passedBy.fill(NOBODY);
             for (int t = 0; t < MOST_TURNS; t++) {
                 for (int left = 0; left < lists.each(); left++) {
-                    nexts.set(left, nextOf(left, lists));
+                    followers.set(left, now.partner(RIGHT, nextOf(left, lists)));
                 }
                 int leader = firstLeader(lists.each());
                 if (leader == NOBODY) {
@@ -1137,10 +1137,6 @@ public final class MatchLattice {
             return NOBODY;
         }
 
-        private int followerOf(int left) {
-            return now.partner(RIGHT, nexts.get(left));
-        }
-
         /** The least left with whom an exposed turn begins. */
         private int firstLeader(int each) {
             for (int left = 0; left < each; left++) {
@@ -1152,12 +1148,12 @@ public final class MatchLattice {
         }
 
         private boolean comesBack(int left, int each) {
-            int follower = followerOf(left);
+            int follower = followers.get(left);
             for (int step = 1; step < each; step++) {
                 if (follower == left || follower == NOBODY) {
                     return follower == left;
                 }
-                follower = followerOf(follower);
+                follower = followers.get(follower);
             }
             return follower == left;
         }
@@ -1168,7 +1164,7 @@ public final class MatchLattice {
                 lefts.set(t * MOST_EACH + k, left);
                 rights.set(t * MOST_EACH + k, now.partner(LEFT, left));
                 lengths.set(t, k + 1);
-                left = followerOf(left);
+                left = followers.get(left);
                 if (left == leader) {
                     return;
                 }

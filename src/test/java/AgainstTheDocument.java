@@ -79,6 +79,8 @@ public final class AgainstTheDocument {
           tellLists(model.n);
         } else if (dice < 6) {
           tellText(spoilt(someText(2)));
+        } else if (dice < 7) {
+          changeAndGoBack();
         } else if (name.equals("size") && below(4) > 0) {
           call("count", below(5), 0, 0);
         } else if (name.equals("hand") && below(5) == 0) {
@@ -143,6 +145,20 @@ public final class AgainstTheDocument {
         call("feed", text.charAt(i), 0, 0);
       }
       call("lists", 0, 0, 0);
+    }
+
+    private void changeAndGoBack() {
+      for (int i = below(18); i >= 0; i--) {
+        call("stir", below(2), below(model.n), below(Math.max(1, model.n - 1)));
+      }
+      for (int i = below(15); i >= 0; i--) {
+        call("undo", 0, 0, 0);
+        call("list", below(2), below(model.n), below(model.n));
+      }
+      for (int i = below(15); i >= 0; i--) {
+        call("redo", 0, 0, 0);
+        call("list", below(2), below(model.n), below(model.n));
+      }
     }
 
     private void handSomeMatch() {

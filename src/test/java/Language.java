@@ -58,7 +58,7 @@ public final class Language {
     }
   }
 
-  /** Methods stand four deep in the class itself, eight deep in the classes inside. */
+  /** Methods begin behind four blanks in the class itself, behind eight in the classes inside. */
   private static void lengths(String source) {
     int since = 0;
     int line = 0;

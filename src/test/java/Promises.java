@@ -18,6 +18,15 @@ public final class Promises {
   private static final String LIAR = "l0:012;l1:102;l2:012;r0:102;r1:012;r2:012";
   /** Mending goes round and round. */
   private static final String ENDLESS = "l0:021;l1:201;l2:102;r0:210;r1:021;r2:012";
+  /** Mended 200 times and 201 times, when all are alone at first. */
+  private static final String MENDED_200_LEFTS = "l0:10543672;l1:10764325;l2:35026471;l3:65342170;"
+      + "l4:36752401;l5:72435106;l6:75342610;l7:61034257";
+  private static final String MENDED_200_RIGHTS = "r0:17456230;r1:72346501;r2:41620573;r3:63175420;"
+      + "r4:15674203;r5:53647201;r6:71305264;r7:70142635";
+  private static final String MENDED_201_LEFTS = "l0:01234765;l1:57621043;l2:16432075;l3:45362071;"
+      + "l4:76123504;l5:26145073;l6:74321506;l7:35462170";
+  private static final String MENDED_201_RIGHTS = "r0:61450237;r1:73105426;r2:67254130;r3:65173402;"
+      + "r4:46531072;r5:73564012;r6:47530126;r7:25614037";
 
   private static int wrong = 0;
 
@@ -288,24 +297,36 @@ public final class Promises {
 
   private static void changesThatAreKept() {
     MatchLattice x = new MatchLattice();
+    x.size(8);
     for (int i = 1; i <= 15; i++) {
-      x.stir(0, 0, i % 2);
+      x.stir(i % 2, i / 2, 0);
       due("changes kept", x.count(2), Math.min(i, 12));
     }
-    int behind = listOf(x, 0, 0);
     for (int i = 11; i >= 0; i--) {
+      due("stirred by now", howManyStirred(x), i + 4);
       due("undo()", x.undo(), i);
       due("may be done again", x.count(3), 12 - i);
     }
     due("the oldest three are lost", x.undo(), STATE);
-    due("list of l0 behind three", listOf(x, 0, 0), 210);
+    due("they are still made", howManyStirred(x), 3);
     for (int i = 11; i >= 0; i--) {
       due("redo()", x.redo(), i);
+      due("stirred again by now", howManyStirred(x), 15 - i);
     }
-    due("list of l0 behind fifteen", listOf(x, 0, 0), behind);
     x.undo();
     x.size(3);
     due("no changes when n is told", x.count(2) + x.count(3), 0);
+  }
+
+  private static int howManyStirred(MatchLattice x) {
+    int stirred = 0;
+    while (stirred < 15 && x.list((stirred + 1) % 2, (stirred + 1) / 2, 0) == 1) {
+      stirred++;
+    }
+    for (int i = stirred + 1; i <= 15; i++) {
+      due("not stirred", x.list(i % 2, i / 2, 0), 0);
+    }
+    return stirred;
   }
 
   private static void best() {
@@ -618,6 +639,13 @@ public final class Promises {
     x.hand(1, 1);
     x.hand(2, 2);
     due("nobody blocks", x.mended(-1), 0);
+    MatchLattice z = with(8, MENDED_200_LEFTS);
+    tell(z, MENDED_200_RIGHTS);
+    due("200 times", z.mended(-1), 200);
+    tell(z, MENDED_201_LEFTS);
+    tell(z, MENDED_201_RIGHTS);
+    due("201 times", z.mended(-1), LONG);
+    due("whom l7 would have behind 201", z.mended(7), LONG);
     MatchLattice y = with(3, ENDLESS);
     due("without an end", y.mended(-1), LONG);
     due("whom l0 has then", y.mended(0), LONG);
