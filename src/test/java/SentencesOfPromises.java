@@ -426,6 +426,9 @@ public final class SentencesOfPromises {
       due("r2, r3", Told.with(Told.TWO_PAIRS).may(0, 2), 12);
       due("l0, l2", Told.with(Told.UNEVEN).may(1, 1), 5);
       due("l0 alone", Told.with(Told.TAIL).may(1, 2), 1);
+      for (String lists : new String[] {Told.UNEVEN, Told.TAIL, Told.FORK, Told.APART_OF_SIX, Told.turned(8)}) {
+        mayByMatches(lists);
+      }
     });
     says("`int fixed()`: LEFTS (bits) that have the same RIGHT in all MATCHES.", () -> {
       due("all of one match", Told.of(8).fixed(), 255);
@@ -435,6 +438,28 @@ public final class SentencesOfPromises {
       due("none", Told.with(Told.WHEEL).fixed(), 0);
       due("none of eight", Told.with(Told.doubled(8)).fixed(), 0);
     });
+  }
+
+  private static void mayByMatches(String lists) {
+    MatchLattice x = Told.with(lists);
+    int n = x.count(0);
+    int[] rights = new int[n];
+    int[] lefts = new int[n];
+    for (int m = x.match(-1) - 1; m >= 0; m--) {
+      String match = Told.matchOf(x, m);
+      for (int left = 0; left < n; left++) {
+        int right = match.charAt(left) - '0';
+        rights[left] |= 1 << right;
+        lefts[right] |= 1 << left;
+      }
+    }
+    int fixed = 0;
+    for (int one = 0; one < n; one++) {
+      due("may(0, " + one + ") of " + lists, x.may(0, one), rights[one]);
+      due("may(1, " + one + ") of " + lists, x.may(1, one), lefts[one]);
+      fixed |= Integer.bitCount(rights[one]) == 1 ? 1 << one : 0;
+    }
+    due("fixed() of " + lists, x.fixed(), fixed);
   }
 
   private static void inThought() {

@@ -25,11 +25,17 @@ public final class SentencesOfTerms {
     betterAndWorse();
     inThought();
     byHand();
+    mended();
     texts();
+    faults();
     changes();
+    keptChanges();
     answers();
+    refusals();
     size();
-    readOneWay();
+    textsReadOneWay();
+    handsReadOneWay();
+    numbersReadOneWay();
     theTape();
     Sentences.close();
   }
@@ -640,6 +646,9 @@ public final class SentencesOfTerms {
       Told.handAll(z, "0123456-");
       due("the last ones", z.blocks(), 77);
     });
+  }
+
+  private static void mended() {
     says("MENDED in thought: as long as somebody blocks it, the first of these have each other, those whom they had are"
         + " alone: how many times (200 at most, else LONG); who has whom then.", () -> {
       due("one of each", Told.of(1).mended(-1), 1);
@@ -723,6 +732,9 @@ public final class SentencesOfTerms {
       due("nothing behind the semicolon", Told.tell(x, "l0:012;"), -107);
       due("a semicolon ahead", Told.tell(x, ";l0:012"), -100);
     });
+  }
+
+  private static void faults() {
     says("FAULT: a figure that is no number of the side, or stands in that LINE already: its place", () -> {
       for (int n = 1; n <= 8; n++) {
         String figures = "01234567".substring(0, n);
@@ -772,14 +784,23 @@ public final class SentencesOfTerms {
     });
   }
 
-  /** What comes of places on both sides' lists. */
+  /** What comes of the lists of both sides. */
   private static String ofLists(MatchLattice x) {
-    int all = x.match(-1);
-    StringBuilder known = new StringBuilder(Told.bestOf(x, 0) + " " + Told.bestOf(x, 1) + " " + x.blocking());
-    for (int m = 0; m < all; m++) {
-      known.append(", ").append(x.match(m)).append(": ").append(costsOf(x, m));
+    int n = x.count(0);
+    StringBuilder all = new StringBuilder(Told.bestOf(x, 0) + " " + Told.bestOf(x, 1) + " " + x.asking(1, -1));
+    for (int t = x.rounds(-1) - 1; t >= 0; t--) {
+      all.append(", ").append(Told.turnOf(x, t)).append(": ").append(x.ahead(t));
+      all.append(' ').append(x.of(t, 0)).append(' ').append(x.of(t, 1));
     }
-    return known.append("; ").append(x.mended(-1)).append(' ').append(x.lie(2, 0)).append(x.lie(2, 1)).toString();
+    for (int m = x.match(-1) - 1; m >= 0; m--) {
+      all.append("; ").append(x.match(m)).append(": ").append(costsOf(x, m)).append(" ").append(x.exposed(m));
+    }
+    for (int one = 0; one < n; one++) {
+      all.append(' ').append(x.may(0, one)).append(' ').append(x.may(1, one));
+    }
+    all.append("; ").append(picksOf(x)).append(' ').append(x.most()).append(' ').append(x.fixed());
+    all.append("; ").append(x.blocking()).append(' ').append(x.mended(-1)).append(' ').append(x.known());
+    return all.append("; ").append(x.lie(n - 1, 0)).append(' ').append(x.lie(n - 1, 1)).toString();
   }
 
   private static int emptyBehind(String text) {
@@ -805,9 +826,9 @@ public final class SentencesOfTerms {
       due("all lines of the text at once", x.undo(), 0);
       due("then", Told.listsOf(x), "l0:012;l1:012;l2:012;r0:012;r1:012;r2:012");
       due("nothing more", x.undo(), STATE);
-      MatchLattice y = Told.with(Told.FORK);
+      MatchLattice y = Told.with(Told.GAINING);
       String before = ofLists(y);
-      due("a text", Told.tell(y, "l0:01234;l1:43210;l2:12340;l4:30214;r0:40321;r1:01234;r2:21043"), 7);
+      due("a text", Told.tell(y, "l0:210;l1:012;l2:102;r0:210;r1:021;r2:120"), 6);
       String behind = ofLists(y);
       due("a text that changes all", behind.equals(before) ? 1 : 0, 0);
       y.undo();
@@ -817,7 +838,7 @@ public final class SentencesOfTerms {
       y.undo();
       y.undo();
       y.undo();
-      due("all that comes of lists as at first", ofLists(y), ofLists(Told.of(5)));
+      due("all that comes of lists as at first", ofLists(y), ofLists(Told.of(3)));
     });
     says("and DONE AGAIN (as long as no other came behind)", () -> {
       MatchLattice x = new MatchLattice();
@@ -842,6 +863,9 @@ public final class SentencesOfTerms {
       due("a fault is no change", Told.tell(x, "l0:011"), -105);
       due("done again", x.redo(), 0);
     });
+  }
+
+  private static void keptChanges() {
     says("12 at most are kept", () -> {
       for (int made : new int[] {11, 12, 13, 14, 25, 26, 27, 40}) {
         MatchLattice x = Told.of(5);
@@ -929,6 +953,9 @@ public final class SentencesOfTerms {
       due("BAD ahead of NOT: i", x.text(1, -2), BAD);
       due("BAD ahead of NOT: side", x.asking(2, 99), BAD);
     });
+  }
+
+  private static void refusals() {
     says("What is answered so changes nothing, but THE TAPE, where it is said.", () -> {
       refused("size(0)", x -> x.size(0), BAD);
       refused("size(9)", x -> x.size(9), BAD);
@@ -1053,7 +1080,7 @@ public final class SentencesOfTerms {
     });
   }
 
-  private static void readOneWay() {
+  private static void textsReadOneWay() {
     says("A TEXT is looked at from the left", () -> {
       due("a figure that is none behind a missing colon", Told.tell(new MatchLattice(), "l0012;l9:012"), -102);
       due("a figure twice ahead of a wrong sign", Told.tell(new MatchLattice(), "l0:00x"), -104);
@@ -1100,6 +1127,9 @@ public final class SentencesOfTerms {
       due("undo()", x.undo(), 1);
       due("list of l0", Told.listOf(x, 0, 0), "102");
     });
+  }
+
+  private static void handsReadOneWay() {
     says("undo(), redo() leave the HAND-MADE MATCH.", () -> {
       MatchLattice x = Told.with(Told.WHEEL);
       Told.handAll(x, "120");
@@ -1148,7 +1178,21 @@ public final class SentencesOfTerms {
       due("behind a change", Told.askingOf(x, 0), "1 101 11 200 210 221");
       x.undo();
       due("undone", Told.askingOf(x, 0), "1 100 111 200 210 221");
+      String[] all = {Told.WHEEL, Told.GAINING, Told.LOSING, Told.UNEVEN, Told.TAIL, Told.TWO_PAIRS, Told.APART,
+          Told.LOSING_FIRST, Told.GAINING_FIRST, Told.GAINING_LAST, Told.NOTHING_GAINED, Told.FORK, Told.THREE_PAIRS,
+          Told.APART_OF_SIX, Told.doubled(4), Told.turned(6), "l0:0;r0:0", "l0:01;l1:01;r0:01;r1:01"};
+      for (String before : all) {
+        for (String lists : all) {
+          MatchLattice y = Told.with(before);
+          y.match(-1);
+          Told.tellNew(y, lists);
+          due("all that comes of " + lists + " behind " + before, ofLists(y), ofLists(Told.with(lists)));
+        }
+      }
     });
+  }
+
+  private static void numbersReadOneWay() {
     says("pick(), either(), middle(), known(): the number of a MATCH as by match().", () -> {
       MatchLattice x = Told.with(Told.doubled(4));
       due("pick(1)", x.match(x.pick(1)), 63);

@@ -35,6 +35,11 @@ final class Told {
   static final String GAINING_FIRST = "l0:0123;l1:3021;l2:2103;l3:1203;r0:3210;r1:1203;r2:1320;r3:2301";
   /** Turn 0 loses 1, turn 1 gains 1 behind it; matches 1 and 2 have the same greatest place. */
   static final String NOTHING_GAINED = "l0:1032;l1:1230;l2:2301;l3:3021;r0:2103;r1:1320;r2:1320;r3:1023";
+  /** Three turns in a row, of which the last one gains. */
+  static final String GAINING_LAST = "l0:0321;l1:3201;l2:1023;l3:2031;r0:2103;r1:1302;r2:2013;r3:2310";
+  /** Three turns of two, none ahead of another, and eight matches. */
+  static final String THREE_PAIRS = "l0:012345;l1:102345;l2:230145;l3:320145;l4:450123;l5:540123;"
+      + "r0:102345;r1:012345;r2:320145;r3:230145;r4:540123;r5:450123";
   /** Matches 1 and 2 have the same least cost 2. */
   static final String LIKE_SUMS = "l0:210;l1:120;l2:021;r0:012;r1:021;r2:210";
   /** Matches 1 and 2 have the same least cost 3. */
@@ -59,13 +64,17 @@ final class Told {
   }
 
   static MatchLattice with(String text) {
-    int n = text.indexOf(';') - 3;
     MatchLattice x = new MatchLattice();
-    x.size(n);
+    tellNew(x, text);
+    return x;
+  }
+
+  /** n, as it is in the text, and the lists of both sides in two texts, so that each fits on the tape. */
+  static void tellNew(MatchLattice x, String text) {
+    x.size(text.indexOf(';') - 3);
     int rights = text.indexOf(";r0");
     tell(x, text.substring(0, rights));
     tell(x, text.substring(rights + 1));
-    return x;
   }
 
   static MatchLattice of(int n) {
